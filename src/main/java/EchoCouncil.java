@@ -1008,7 +1008,6 @@ public final class EchoCouncil {
             return sum;
         }
 
-        // Every row is written anew: an undone room, echo or singer may have left its numbers.
         int addRoom(int size) {
             int room = rooms.count;
             rooms.count++;

@@ -23,6 +23,7 @@ public final class QuestionTests {
         strongest();
         isTold();
         notThere();
+        fullHouse();
         Due.end();
     }
 
@@ -360,5 +361,51 @@ public final class QuestionTests {
             Due.thrown("ranked of no kind", Due.BAD_ARGUMENT, () -> x.ranked(number, 0));
             Due.thrown("strongest", Due.NO_ELEMENT, () -> x.strongest(number));
         }
+    }
+
+    // As many rooms, echoes and singers as there can be, with the most going on in the last room.
+    private static void fullHouse() {
+        EchoCouncil x = Due.after("room 1;room 2;room 3;room 4;room 5;room 9;echo 0 1;echo 1 2;echo 2 3;echo 3 4;"
+            + "echo 4 5;echo 5 6;echo 5 7;echo 5 8;singer 0 50;singer 0 60;singer 0 70;singer 0 80;"
+            + "singer 0 90;singer 0 99;enter 5 5;enter 4 5;enter 3 5;enter 2 5;enter 1 4;"
+            + "rent 5 7 9;rent 5 6 2;rent 4 5 1;rent 1 4 3;sing 5;sing 4");
+        Due.same("rooms, echoes and singers", "6 8 6", x.account(0) + " " + x.account(1) + " " + x.account(2));
+        Due.same("breath", "50 55 70 80 88 83", breaths(x));
+        bothTones("of the last singer", x, 5, 11);
+        bothVerses("of the last singer", x, 5, 6);
+        Due.same("would", 11, x.would(5, 5));
+        Due.same("bestRoom of the last singer", 5, x.bestRoom(5));
+        Due.same("bestRoom of another", 4, x.bestRoom(1));
+        Due.same("canEnter", false, x.canEnter(0, 5));
+        Due.same("canRent", false, x.canRent(5, 7));
+        Due.same("others", 60, x.others(5));
+        Due.same("free", 32, x.free(5));
+        Due.same("dryIn", 1, x.dryIn(5));
+        orderOfRooms("six rooms", x, 5, 4, 0, 1, 2, 3);
+        orderOfSingers("six singers by breath", x, 0, 4, 5, 3, 2, 1, 0);
+        orderOfSingers("six singers by tones", x, 1, 5, 4, 0, 1, 2, 3);
+        orderOfSingers("six singers by verses", x, 2, 4, 5, 0, 1, 2, 3);
+        orderOfSingers("six singers by shyness", x, 3, 0, 1, 2, 3, 4, 5);
+        orderOfEchoes("eight echoes", x, 7, 6, 5, 4, 3, 2, 1, 0);
+        Due.same("isTold", true, x.isTold());
+        Due.same("tellRoom", 19, x.tellRoom(5));
+        Due.same("its line", "5[9~2]56*7*s2s3s4s5", Due.line(x));
+        int[] accounts = {6, 8, 6, 3, 0, 2, 2, 20, 26, 5, 1, 20};
+        for (int what = 0; what < accounts.length; what++) {
+            Due.same("account(" + what + ")", accounts[what], x.account(what));
+        }
+        Due.same("meanDamp", 2.0 / 6.0, x.meanDamp());
+        Due.same("letShare", 3.0f / 8.0f, x.letShare());
+        Due.same("night", 18, x.night());
+        Due.same("night again", 18, x.night());
+        Due.same("breath then", "56 61 76 86 94 89", breaths(x));
+    }
+
+    private static String breaths(EchoCouncil x) {
+        StringBuilder breaths = new StringBuilder();
+        for (int singer = 0; singer < x.account(2); singer++) {
+            breaths.append(singer == 0 ? "" : " ").append(x.singerOf(singer, 1));
+        }
+        return breaths.toString();
     }
 }

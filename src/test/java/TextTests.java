@@ -21,6 +21,8 @@ public final class TextTests {
         longestTexts();
         faultPosition();
         faultsOfBeginnings();
+        faultsAfterLongerTexts();
+        faultsOfFullInputs();
         faultsByPattern();
         reason();
         Due.end();
@@ -227,6 +229,53 @@ public final class TextTests {
                     fault(beginning, length);
                 }
                 fault(beginning + "?", length);
+            }
+        }
+    }
+
+    private static final String[] EACH_ORDER = {"room 1", "echo 0 1", "singer 9 50", "enter 0 0", "out 0", "carry 0 0", "rent 0 0 1", "back 0 0", "sing 0", "night"};
+
+    // What an earlier text left behind the end of the input is no part of it.
+    private static void faultsAfterLongerTexts() {
+        for (String order : EACH_ORDER) {
+            for (int length = 0; length < order.length(); length++) {
+                String beginning = order.substring(0, length);
+                if (TEXT.matcher(beginning).matches()) {
+                    continue;
+                }
+                EchoCouncil x = new EchoCouncil();
+                Due.type(x, order + ";night;x");
+                Due.thrown("run of a longer text", Due.BAD_ARGUMENT, () -> x.run());
+                Due.type(x, beginning);
+                Due.thrown("run of \"" + beginning + "\" after a longer text", Due.BAD_ARGUMENT, () -> x.run());
+                Due.same("the fault position of \"" + beginning + "\" after a longer text", length, x.faultPosition());
+            }
+        }
+        EchoCouncil x = new EchoCouncil();
+        Due.same("two orders", 2, Due.run(x, "singer 0 55;night"));
+        Due.same("one order where two stood", 1, Due.run(x, "singer 0 5"));
+        Due.same("the breath of one digit where two stood", 5, x.singerOf(1, 1));
+    }
+
+    // An order begun at the end of an input that is full.
+    private static void faultsOfFullInputs() {
+        for (String order : EACH_ORDER) {
+            for (int length = 0; length <= order.length(); length++) {
+                StringBuilder text = new StringBuilder();
+                int sixes = 0;
+                while ((60 - length - 6 * sixes) % 7 != 0) {
+                    sixes++;
+                }
+                text.append("night;".repeat(sixes));
+                text.append("room 1;".repeat((60 - length - 6 * sixes) / 7));
+                text.append(order, 0, length);
+                Due.same("the length of \"" + text + "\"", 60, text.length());
+                int due = faultByPattern(text.toString());
+                if (due != -1) {
+                    fault(text.toString(), 60);
+                } else {
+                    Due.same("the full input ends an order", true, length >= order.length() - 1);
+                }
             }
         }
     }

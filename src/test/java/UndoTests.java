@@ -9,6 +9,7 @@ public final class UndoTests {
         newOnesAfterUndo();
         save();
         restore();
+        restoreOverOthers();
         Due.end();
     }
 
@@ -153,5 +154,22 @@ public final class UndoTests {
         x.night();
         x.restore();
         Due.same("the nights", 3, x.account(4));
+    }
+
+    // Rooms, echoes and singers of the same numbers that came instead are replaced.
+    private static void restoreOverOthers() {
+        EchoCouncil x = new EchoCouncil();
+        Due.run(x, "room 5;echo 0 9;singer 0 50;enter 0 0;rent 0 0 3;sing 0");
+        String first = Due.state(x);
+        x.save();
+        x.undo();
+        Due.run(x, "room 2;room 3;echo 1 1;echo 0 7;singer 9 99");
+        Due.run(x, "singer 1 1;enter 0 1;rent 0 0 9;sing 0;enter 1 0;night");
+        String second = Due.state(x);
+        Due.same("restore of the first ones", 1, x.restore());
+        Due.same("the first ones", first, Due.state(x));
+        Due.same("restore of them again", 1, x.restore());
+        Due.same("the first ones again", first, Due.state(x));
+        Due.same("others came", false, first.equals(second));
     }
 }
