@@ -47,6 +47,75 @@ final class Due {
         thrown(what + ", its cause", NO_ELEMENT, () -> x.reason(1, false));
     }
 
+    interface Action {
+        Object on(EchoCouncil x);
+    }
+
+    // The call throws exactly this, and all that can be asked is the same then, now and later.
+    static void onlyThrown(String what, String orders, Class<?> want, Action call) {
+        EchoCouncil x = used(orders);
+        EchoCouncil twin = used(orders);
+        thrown(what, want, () -> call.on(x));
+        same(what + ", the reason", reasons(twin), reasons(x));
+        sameFromNowOn(what, twin, x);
+    }
+
+    // The call is refused for this reason; nothing but the reason is different then, now and later.
+    static void onlyRefused(String what, String orders, int number, int detail, Action call) {
+        EchoCouncil x = used(orders);
+        EchoCouncil twin = used(orders);
+        refused(what, x, number, detail, () -> call.on(x));
+        sameFromNowOn(what, twin, x);
+    }
+
+    // A council after these orders, of which the rest is used too: saved, refused with a cause, with
+    // a fault, a line of text and an input.
+    static EchoCouncil used(String orders) {
+        EchoCouncil x = new EchoCouncil();
+        run(x, "night;room 7;night");
+        x.save();
+        x.tellRoom(0);
+        x.undo();
+        if (!orders.isEmpty()) {
+            does(x, orders);
+        }
+        thrown("a refused run", REFUSED, () -> run(x, "night;room 0"));
+        thrown("a run of a fault", BAD_ARGUMENT, () -> run(x, "nigh"));
+        return type(x, "night;night");
+    }
+
+    static void sameFromNowOn(String what, EchoCouncil twin, EchoCouncil x) {
+        sameNow(what, twin, x);
+        same(what + ", run of its input", twin.run(), x.run());
+        sameNow(what + ", after run", twin, x);
+        for (int left = twin.account(13); left > 0; left--) {
+            same(what + ", undo", twin.undo(), x.undo());
+            sameNow(what + ", after undo", twin, x);
+        }
+        thrown(what + ", undo of no more", BAD_STATE, () -> x.undo());
+        same(what + ", restore", twin.restore(), x.restore());
+        sameNow(what + ", after restore", twin, x);
+    }
+
+    static void sameNow(String what, EchoCouncil twin, EchoCouncil x) {
+        same(what + ", the state", all(twin), all(x));
+        same(what + ", the fault position", twin.faultPosition(), x.faultPosition());
+        same(what + ", the line", line(twin), line(x));
+    }
+
+    // The reason that is kept and its cause, with their details, or "none" where there is none.
+    static String reasons(EchoCouncil x) {
+        return reason(x, 0) + (reason(x, 0).equals("none") ? "" : " " + reason(x, 1));
+    }
+
+    private static String reason(EchoCouncil x, int depth) {
+        try {
+            return x.reason(depth, false) + " " + x.reason(depth, true);
+        } catch (NoSuchElementException none) {
+            return "none";
+        }
+    }
+
     static EchoCouncil type(EchoCouncil x, String text) {
         for (int index = 0; index < text.length(); index++) {
             x.append(text.charAt(index));
